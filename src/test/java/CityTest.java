@@ -284,21 +284,44 @@ public final class CityTest {
         due("written", 1, x.book(-1, 0));
         due("all of it is one step", 0, x.undo());
         due("pence as ahead", 0, x.ofOwner(1, 1));
+        drawnOnce();
+        drawnLast();
+    }
+
+    /** On the last day no day can pass by a draw either. */
+    private static void drawnLast() {
+        ThanksByPost x = city();
+        for (int i = 0; i < 166; i++) x.day(60);
+        x.day(39);
+        due("the last day", 9999, x.decades(0, 1));
+        due("x all the same", 27772, x.about(4));
+    }
+
+    private static void drawnOnce() {
         for (int seed = 0; seed < 60; seed++) {
-            int draw = (int) ((seed * 2L + 89) * 293 + 197) % 30319;
-            int thing = (int) (draw * 293L + 197) % 30319;
-            int owner = (int) (thing * 293L + 197) % 30319;
-            ThanksByPost y = city();
-            y.room(99);
-            y.steal(thing % 3);
-            if (draw % 5 != 2) y.undo();
-            int with = y.of(thing % 3, 3);
-            y.decades(seed, 1);
-            int now = y.of(thing % 3, 3);
-            int want = draw % 5 < 2 ? -1 : draw % 5 == 2 ? y.of(thing % 3, 2) : draw % 5 == 3 ? owner % 2 : with;
-            due("one draw by seed " + seed, want, now);
-            due("x by seed " + seed, draw % 5 == 3 ? owner : thing, y.about(4));
+            int what = next(seed * 2 + 89);
+            int thing = next(what);
+            int owner = next(thing);
+            int x = what % 5 == 3 ? owner : thing;
+            int with = thing % 3 == 0 ? 0 : 1;
+            int[] free = {-1, -1, with, owner % 2, with};
+            int[] kept = {-1, -1, with, -1, -1};
+            drawnOnce(seed, thing % 3, false, free[what % 5], x, what % 5 == 4 ? 1 : 0);
+            drawnOnce(seed, thing % 3, true, kept[what % 5], x, what % 5 == 4 ? 1 : 0);
         }
+    }
+
+    private static int next(int x) {
+        return (x * 293 + 197) % 30319;
+    }
+
+    private static void drawnOnce(int seed, int thing, boolean kept, int with, int x, int day) {
+        ThanksByPost y = city();
+        if (kept) y.steal(thing);
+        due("day by seed " + seed, day, y.decades(seed, 1));
+        due("with whom by seed " + seed, with, y.of(thing, 3));
+        due("x by seed " + seed, x, y.about(4));
+        due("a step by seed " + seed, kept ? 2 : 1, y.about(7));
     }
 
     private static void promise16() {
@@ -332,6 +355,45 @@ public final class CityTest {
         due("none", -1, x.undo());
         due("the eldest stays", 1, x.about(3));
         bookTakenBack();
+        whatIsKeptTakenBack();
+    }
+
+    private static void whatIsKeptTakenBack() {
+        ThanksByPost x = city();
+        x.room(99);
+        x.day(4);
+        x.give(0, 1);
+        x.steal(0);
+        x.day(1);
+        x.steal(2);
+        x.day(1);
+        x.send(0);
+        x.give(0, 0);
+        x.steal(0);
+        due("since", 6, x.of(0, 4));
+        due("from", 0, x.of(0, 5));
+        x.undo();
+        x.undo();
+        x.undo();
+        due("since as ahead", 4, x.of(0, 4));
+        due("from as ahead", 1, x.of(0, 5));
+        due("since of the other", 5, x.of(2, 4));
+        due("dear of the other", 99, x.of(2, 0));
+        x.send(2);
+        x.send(0);
+        x.undo();
+        due("pence of the one", 99, x.ofOwner(1, 1));
+        due("pence of the other", 0, x.ofOwner(0, 1));
+        x = city();
+        for (int i = 0; i < 4; i++) x.owner(i);
+        x.give(2, 5);
+        x.steal(2);
+        x.send(2);
+        x.day(1);
+        x.undo();
+        due("pence of the last owner", 98, x.ofOwner(5, 1));
+        x.undo();
+        due("pence of the last owner", 0, x.ofOwner(5, 1));
     }
 
     private static void bookTakenBack() {
@@ -473,6 +535,7 @@ public final class CityTest {
         due("the latest thirty", 30, x.book(-1, 0));
         due("the eldest of them", 10 % 3, x.book(0, 1));
         due("the latest", 39 % 3, x.book(29, 1));
+        for (int i = 0; i < 30; i++) due("card " + i, (10 + i) % 3, x.book(i, 1));
         due("no more", -2, x.book(30, 1));
     }
 }

@@ -133,6 +133,9 @@ public final class ForesightTest {
         x.plan(0, 9);
         x.plan(0, 60);
         due("back", -1, x.first());
+        x.plan(2, 60);
+        x.plan(2, 60);
+        due("on the last day that is told", 4, x.first());
         // Told ahead, it is from the day on which it is asked that days are counted.
         x.steal(0);
         due("kept", 0, x.first());
@@ -207,8 +210,9 @@ public final class ForesightTest {
         due("stolen", 1, x.fewest(0, 1, 3, 1));
         due("sent", 10, x.fewest(0, 1, 3, 2));
         due("not in two", -1, x.fewest(0, 1, 2, -1));
-        x = lateCity(9999);
+        x = lateCity(9991);
         x.steal(0);
+        x.day(8);
         due("no day can pass, acts can", 1, x.fewest(0, 0, 1, -1));
     }
 
@@ -234,6 +238,19 @@ public final class ForesightTest {
         due("day goes on from now", 2, x.since(1, 10, 60, false));
         due("and is its own", 60, x.since(1, 10, 60, true));
         due("not yet", 1, x.since(1, 10, 10, true));
+        Checks.rule(x, "dears kept;");
+        due("days kept count from 0", 3, x.since(2, 0, 6, false));
+        x.steal(2);
+        x.day(1);
+        due("days kept count from 0, though it is kept", 3, x.since(2, 0, 6, false));
+        x.undo();
+        x.undo();
+        Checks.rule(x, "dears 0-1;");
+        due("to 0", 3, x.since(1, 3, 0, false));
+        x.back();
+        x = city();
+        x.give(1, 0);
+        x.day(3);
         Checks.rule(x, "dears from*10+owner;");
         due("from whom it is with", 7, x.since(1, 10, 17, false));
         x.steal(1);
@@ -305,6 +322,61 @@ public final class ForesightTest {
         due("the old one", 2, x.law(0, 0));
         Checks.no("it is gone", x.by(1));
         due("votes", 5, x.voted(false));
+        lists();
+        cards();
+    }
+
+    private static void lists() {
+        ThanksByPost x = city();
+        x.room(99);
+        x.plan(0, 0);
+        x.plan(0, 3);
+        x.vote(10);
+        x.vote(30);
+        x.seen(50, 4, true);
+        x.seen(20, 3, false);
+        x.image();
+        x.plan(-1, 0);
+        x.plan(1, 60);
+        x.vote(-1);
+        x.vote(77);
+        x.vote(78);
+        x.seen(-1, 0, false);
+        x.seen(5, 9, false);
+        x.seen(70, 9, true);
+        x.back();
+        due("planned as they were", 1, x.first());
+        due("votes as they were", 20, x.voted(true));
+        due("seen happy as they were", 4, x.rule());
+        x.seen(50, 2, false);
+        x.seen(10, 9, false);
+        due("dear as it was", 1104, x.rule());
+    }
+
+    private static void cards() {
+        ThanksByPost x = city();
+        x.room(99);
+        x.steal(2);
+        x.send(2);
+        x.steal(0);
+        x.day(1);
+        x.image();
+        for (int i = 0; i < 40; i++) {
+            x.steal(1);
+            x.send(1);
+        }
+        x.back();
+        due("the book as it was", 1, x.book(-1, 0));
+        due("its card", 2, x.book(0, 1));
+        due("steps", 4, x.about(7));
+        x.undo();
+        due("steps as they were", 0, x.about(3));
+        due("kept", 0, x.of(0, 4));
+        x.undo();
+        due("steps as they were", 0, x.of(0, 3));
+        x.undo();
+        due("kept ahead of it was sent", 1, x.of(2, 5));
+        due("no book then", 0, x.book(-1, 0));
     }
 
     private static void promise40() {

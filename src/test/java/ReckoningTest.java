@@ -42,6 +42,10 @@ public final class ReckoningTest {
         due("worth(100)", -1, x.worth(100));
         due("worth(MAX)", -1, x.worth(MAX));
         due("nothing fits", 0, x.worth(0));
+        ThanksByPost cheap = city(1);
+        cheap.thing(0, 0, 1);
+        cheap.thing(1, 0, 1);
+        due("the least dear that is dear", 2, cheap.worth(1));
         due("nothing dear fits", 0, x.worth(1));
         due("the lowest of like ones", 1, x.worth(2));
         due("the lowest of like ones", 2, x.worth(4));
@@ -110,6 +114,14 @@ public final class ReckoningTest {
             x.send(3);
         }
         due("the eldest are gone", 8, x.twice());
+        x = city(1);
+        x.thing(1, 0, 1);
+        x.steal(0);
+        x.send(0);
+        due("once", 0, x.twice());
+        x.steal(0);
+        x.send(0);
+        due("twice and no more", 1, x.twice());
     }
 
     private static void promise30() {
@@ -185,6 +197,22 @@ public final class ReckoningTest {
         due("50, 60, 99: 69", 9, x.lying(2, true));
         for (int k : new int[] {-1, 3, MIN, MAX}) due("wrong", -1, x.lying(k, true));
         due("votes stay", 60, x.voted(true));
+        x.vote(-1);
+        x.vote(50);
+        x.vote(0);
+        due("99 alone is nearest: 49 for 25", 24, x.lying(0, true));
+        x.vote(-1);
+        x.vote(50);
+        x.vote(1);
+        due("99 alone has it", 25, x.lying(0, true));
+        x.vote(-1);
+        x.vote(1);
+        x.vote(4);
+        due("0 alone is nearest: 2 for 2", 0, x.lying(0, true));
+        x.vote(-1);
+        x.vote(1);
+        x.vote(3);
+        due("0 alone is nearest: 1 for 2", 1, x.lying(0, true));
     }
 
     private static void promise34() {
@@ -312,5 +340,39 @@ public final class ReckoningTest {
         x.day(5);
         Checks.rule(x, "after 5;");
         due("late already: nothing to wait", 0, x.early());
+        waits();
+    }
+
+    private static void waits() {
+        // 30 by 1 of 10 in a year, 5 by 1 of 2; 5.7 and 3.75 in two.
+        ThanksByPost x = city(9, 5);
+        x.thing(20, 0, 1);
+        x.thing(5, 1, 1);
+        x.day(20);
+        x.steal(0);
+        x.steal(1);
+        x.day(7);
+        // 27 by 1 of 10: 2.7; 12 by 1 of 2: 6.
+        due("dear as now", 1, x.early());
+        Checks.rule(x, "after if owner=0 then 60 else 8 end;");
+        due("six years for the one: 27 by 0.468559", 0, x.early());
+        Checks.rule(x, "after if owner=0 then 25 else 8 end;");
+        due("18 days are two years: 27 by 0.19", 1, x.early());
+        Checks.rule(x, "after if owner=0 then 26 else 8 end;");
+        due("19 days are three years: 27 by 0.271", 0, x.early());
+        x = city(9);
+        x.thing(50, 0, 1);
+        x.thing(27, 0, 1);
+        x.steal(0);
+        x.steal(1);
+        Checks.rule(x, "after if dear=50 then 9 else 18 end;");
+        due("50 by 0.1, 27 by 0.19", 1, x.early());
+        x = city(9);
+        x.thing(52, 0, 1);
+        x.thing(27, 0, 1);
+        x.steal(0);
+        x.steal(1);
+        Checks.rule(x, "after if dear=52 then 9 else 18 end;");
+        due("52 by 0.1, 27 by 0.19", 0, x.early());
     }
 }

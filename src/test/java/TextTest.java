@@ -102,6 +102,22 @@ public final class TextTest {
         due("without", -1, x.fault(1));
         x.feed(0, 0, 0, 0, 0);
         due("the tape changes nothing", 0, x.fault(0));
+        faultsLeaveNothing();
+    }
+
+    private static void faultsLeaveNothing() {
+        ThanksByPost x = new ThanksByPost();
+        String sum = "1+1" + "+1".repeat(140);
+        for (int i = 0; i < 4; i++) due("fault", -1, Checks.text(x, "owner 1;to " + sum + ";;"));
+        due("read behind faults", 0, Checks.text(x, "owner 5;thing 1 of 0 bulk 1;steal 0;dears " + sum.substring(0, 199) + ";"));
+        due("no clause of a text with a fault is done", -1, x.played(0));
+        due("owners", 1, x.about(0));
+        x.by(0);
+        due("its law", 99, x.law(0, 0));
+        due("no law of a text with a fault", 0, x.law(0, 2));
+        due("read behind", 1, Checks.text(x, "brings 0" + "+1-3".repeat(60) + ";"));
+        x.by(1);
+        due("its law", -120, x.law(0, 3));
     }
 
     private static void fault(String text, int number, int place) {
@@ -140,6 +156,8 @@ public final class TextTest {
         fault("dears if 1<2<3 then 1 else 2 end;", 1, 12);
         fault("dears if 1<2 and then 1 else 2 end;", 1, 17);
         fault("dears if 1<2 then 1 else 2;", 1, 26);
+        fault("dears if 1 then 2 else 3 end;", 1, 11);
+        fault("dears if 1<2 or kept then 2 else 3 end;", 1, 21);
         fault("dears if 1 =< 2 then 1 else 2 end;", 1, 12);
         fault("dears if 1 < = 2 then 1 else 2 end;", 1, 13);
         fault("dears left 5 3;", 1, 13);
@@ -255,6 +273,18 @@ public final class TextTest {
         fault("dears if 1<=2then 3else 4end;", 0, -1);
         fault("dears if 1>=2 or 1#2 or 1=2 or 1>2 then 3 else 4 end;", 0, -1);
         fault("dears if 1<>2 then 3 else 4 end;", 1, 11);
+        fault(";".repeat(300), 1, 0);
+        fault("dears dayz;", 1, 6);
+        fault("dears dayZ;", 1, 6);
+        fault("dears dayA;", 1, 6);
+        fault("dears aday;", 1, 6);
+        fault("dears Aday;", 1, 6);
+        fault("dears 5a;", 1, 7);
+        fault("dears [;", 1, 6);
+        fault("dears {day;", 1, 6);
+        fault("dears `day;", 1, 6);
+        fault("dears 5:;", 1, 7);
+        fault("owner 0;thing 0 of 0 bulk 1;room 0;steal 0;send 0;give 0 to 0;", 0, -1);
         fault("dears if 1>==2 then 3 else 4 end;", 1, 12);
     }
 
