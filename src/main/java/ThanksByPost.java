@@ -971,9 +971,11 @@ public final class ThanksByPost {
             }
         }
 
+        /** What is drawn is of X as it stands; X steps behind it, for the next draw. */
         private int draw(int m) {
+            int drawn = m > 0 ? x % m : 0;
             x = (x * 293 + 197) % 30319;
-            return m > 0 ? x % m : 0;
+            return drawn;
         }
 
         /** One draw's doing, only where there are things. */

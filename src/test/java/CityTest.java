@@ -246,13 +246,13 @@ public final class CityTest {
         due("decades(1, 0)", -1, x.decades(1, 0));
         due("decades(1, 31)", -1, x.decades(1, 31));
         due("no step", 0, x.about(7));
-        // X: 89, 26274 (mod 5: 4, a day), 27772 (a thing).
+        // X: 89 (mod 5: 4, a day), 26274 (a thing), and 27772 stands behind them.
         due("a day", 1, x.decades(0, 1));
         due("x", 27772, x.about(4));
         due("one step", 1, x.about(7));
-        // 10853: 26950 (by 5: 0), 13607 (by 3: 2): the ring is stolen; 15259 (4), 14191: a day.
-        due("a theft, a day", 2, x.decades(5382, 2));
-        due("x", 14191, x.about(4));
+        // 6885 (by 5: 0), 16448 (by 3: 2): the ring is stolen; 29059 (4), 25164: a day.
+        due("a theft, a day", 2, x.decades(3398, 2));
+        due("x", 5732, x.about(4));
         due("the ring is stolen", -1, x.of(2, 3));
         due("on the day ahead", 1, x.of(2, 4));
         due("and dearer by a day", 99, x.of(2, 0));
@@ -270,22 +270,40 @@ public final class CityTest {
     private static void sendsAndGifts() {
         ThanksByPost x = city();
         x.room(0);
-        // 93: 27446 (by 5: 1), 7340 (by 3: 2).
-        due("no room", 0, x.decades(2, 1));
+        due("no room", 0, x.decades(3398, 1));
+        due("x", 29059, x.about(4));
         due("not stolen", 1, x.of(2, 3));
         due("a step all the same", 1, x.about(7));
         x.undo();
         x.room(9);
-        // And behind those two: 4457 (2), 2381 (2): the ring is sent; 493 (3), 23370 (0), 25832 (0): it can't be given.
-        due("a theft, a day, a sending, a gift that can't be", 1, x.decades(5382, 4));
-        due("x", 25832, x.about(4));
+        // And behind those two: 5732 (2), 12128 (2): the ring is sent; 6378 (3), 19492 (1), 11381 (1): the piano
+        // can't be given to the one with whom it is.
+        due("a theft, a day, a sending, a gift that can't be", 1, x.decades(3398, 4));
+        due("x", 30059, x.about(4));
         due("the ring is back", 1, x.of(2, 3));
         due("pence", 99, x.ofOwner(1, 1));
         due("written", 1, x.book(-1, 0));
         due("all of it is one step", 0, x.undo());
         due("pence as ahead", 0, x.ofOwner(1, 1));
+        drawnAsItStands();
         drawnOnce();
         drawnLast();
+    }
+
+    /** X is drawn as it stands and steps behind the draw: by 5 of the SEED's own X at first. */
+    private static void drawnAsItStands() {
+        ThanksByPost x = new ThanksByPost();
+        x.owner(0);
+        x.owner(0);
+        x.thing(0, 0, 1);
+        // 101 (by 5: 1), 29790: the thing is stolen; 27114 (4), 1021: a day.
+        due("a theft", 0, x.decades(6, 1));
+        due("stolen", -1, x.of(0, 3));
+        due("x", 27114, x.about(4));
+        x.undo();
+        due("a theft, a day", 1, x.decades(6, 2));
+        due("x behind two", 26479, x.about(4));
+        due("stolen on the day ahead", 0, x.of(0, 4));
     }
 
     /** On the last day no day can pass by a draw either. */
@@ -299,10 +317,10 @@ public final class CityTest {
 
     private static void drawnOnce() {
         for (int seed = 0; seed < 60; seed++) {
-            int what = next(seed * 2 + 89);
+            int what = seed * 2 + 89;
             int thing = next(what);
             int owner = next(thing);
-            int x = what % 5 == 3 ? owner : thing;
+            int x = next(what % 5 == 3 ? owner : thing);
             int with = thing % 3 == 0 ? 0 : 1;
             int[] free = {-1, -1, with, owner % 2, with};
             int[] kept = {-1, -1, with, -1, -1};

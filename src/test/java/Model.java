@@ -247,8 +247,9 @@ final class Model {
     }
 
     int draw(int m) {
-        w.x = (w.x * 293 + 197) % 30319;
-        return w.x % m;
+        int as = w.x;
+        w.x = (as * 293 + 197) % 30319;
+        return as % m;
     }
 
     int decades(int seed, int n) {
