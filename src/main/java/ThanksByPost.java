@@ -444,12 +444,13 @@ public final class ThanksByPost {
 
     public int first() {
         trial.copy(city);
-        for (int ahead = 0; ahead <= MOST_DAYS; ahead++) {
-            boolean comes = ahead <= LAST_DAY - city.day;
-            if (comes && ahead > 0) {
+        // Those planned for days that can't pass are passed over, so there is no looking behind the last.
+        int possible = Math.min(MOST_DAYS, LAST_DAY - city.day);
+        for (int ahead = 0; ahead <= possible; ahead++) {
+            if (ahead > 0) {
                 trial.passOne();
             }
-            int plan = firstThatCannot(ahead, comes);
+            int plan = firstThatCannot(ahead);
             if (plan != NONE) {
                 return plan;
             }
@@ -457,11 +458,10 @@ public final class ThanksByPost {
         return NONE;
     }
 
-    /** A day that never comes lets none of its thefts be. */
-    private int firstThatCannot(int ahead, boolean comes) {
+    private int firstThatCannot(int ahead) {
         for (int i = 0; i < told.plans; i++) {
             if (told.planDays[i] == ahead) {
-                if (!comes || !trial.canTake(told.planThing[i])) {
+                if (!trial.canTake(told.planThing[i])) {
                     return i;
                 }
                 trial.take(told.planThing[i]);

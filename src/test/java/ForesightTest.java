@@ -31,6 +31,7 @@ public final class ForesightTest {
         promise23();
         promise24();
         firstOnDays();
+        firstOnLastDay();
         promise25();
         fewestByLaws();
         promise29();
@@ -150,9 +151,35 @@ public final class ForesightTest {
         due("the last day", -1, x.first());
         x.plan(2, 11);
         x.plan(2, 10);
-        due("no such day: the earliest of them", 2, x.first());
+        due("no such days: passed over", -1, x.first());
         x.plan(1, 9);
-        due("one that can't on a day that comes is ahead", 3, x.first());
+        due("one that can't on the last day", 3, x.first());
+    }
+
+    private static void firstOnLastDay() {
+        Checks.at("promise 24, days that can't pass");
+        ThanksByPost x = lateCity(9999);
+        x.plan(0, 1);
+        due("no day can pass", -1, x.first());
+        x.plan(0, 1);
+        x.plan(1, 60);
+        due("even two of one thing", -1, x.first());
+        x.plan(0, 0);
+        due("this day is there", -1, x.first());
+        x.plan(0, 0);
+        due("on this day it is kept", 4, x.first());
+        x.plan(-1, 0);
+        x.steal(2);
+        x.plan(2, 1);
+        due("kept as it is, no day can pass", -1, x.first());
+        x.plan(2, 0);
+        due("kept as it is", 1, x.first());
+        x = lateCity(9998);
+        x.plan(0, 2);
+        x.plan(0, 0);
+        due("one day can pass, two can't", -1, x.first());
+        x.plan(0, 1);
+        due("not back on the last day", 2, x.first());
     }
 
     private static void promise25() {

@@ -414,10 +414,10 @@ final class Model {
     int first() {
         World a = w.copy();
         for (int d = 0; d <= 60; d++) {
-            boolean comes = d == 0 || doDay(a) >= 0;
+            if (d > 0 && doDay(a) < 0) break;
             for (int i = 0; i < r.plans.size(); i++) {
                 int[] p = r.plans.get(i);
-                if (p[1] == d && (!comes || !doSteal(a, p[0]))) return i;
+                if (p[1] == d && !doSteal(a, p[0])) return i;
             }
         }
         return -1;
