@@ -1,10 +1,31 @@
 /** Counts what is as it should be, and tells what is not. */
 final class Checks {
+    private static final int MOST_SECONDS = 300;
     private static int right = 0;
     private static int wrong = 0;
     private static String where = "";
 
+    static {
+        watch();
+    }
+
     private Checks() {
+    }
+
+    /** A call that doesn't end is to fail a test, not to hold it up for good. */
+    static void watch() {
+        Thread watcher = new Thread(() -> {
+            try {
+                Thread.sleep(MOST_SECONDS * 1000L);
+            } catch (InterruptedException e) {
+                return;
+            }
+            System.out.println(where + ": not at its end after " + MOST_SECONDS + " seconds");
+            System.out.flush();
+            Runtime.getRuntime().halt(1);
+        });
+        watcher.setDaemon(true);
+        watcher.start();
     }
 
     static void at(String place) {

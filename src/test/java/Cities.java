@@ -22,9 +22,8 @@ final class Cities {
     }
 
     static void passTo(ThanksByPost x, int day) {
-        while (x.about(3) < day && x.day(Math.min(60, day - x.about(3))) != -1) {
-            if (x.about(3) > day) throw new IllegalStateException("no way back to " + day);
-        }
+        for (int i = 0; i < 170 && x.about(3) < day; i++) x.day(Math.min(60, day - x.about(3)));
+        Checks.due("the day that is passed to", day, x.about(3));
     }
 
     static ThanksByPost late(int day) {

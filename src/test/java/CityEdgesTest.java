@@ -38,6 +38,9 @@ public final class CityEdgesTest {
         decades();
         drawn();
         drawnAway();
+        ofOwner();
+        ofThing();
+        lawOf();
         Checks.end();
     }
 
@@ -341,6 +344,13 @@ public final class CityEdgesTest {
         due("a day", 0, x.day(1));
         due("sixty", 0, x.day(60));
         due("day", 130, x.about(3));
+        x = city(1, 8, 10, 1);
+        for (int i = 7; i >= 0; i--) x.steal(i);
+        due("all eight, on one of sixty days", 8, x.day(60));
+        for (int i = 0; i < 8; i++) due("by number", i, x.book(i, 1));
+        for (int i = 7; i >= 0; i--) x.steal(i);
+        due("none on eight days", 0, x.day(8));
+        due("all eight on the ninth", 8, x.day(1));
     }
 
     private static void dears(int dear, String dears, int want) {
@@ -758,5 +768,54 @@ public final class CityEdgesTest {
         x.undo();
         due("taken back", 9998, x.about(3));
         due("x at first", 89, x.about(4));
+    }
+
+    private static void ofOwner() {
+        Checks.at("Of an OWNER: 0 LIVES, 1 PENCE, 2 THINGS with it (bits). -2000000 for others");
+        ThanksByPost x = city(6, 8, 10, 1);
+        due("all eight", 255, x.ofOwner(0, 2));
+        for (int i = 7; i >= 0; i--) {
+            x.give(i, 5);
+            due("given to the last", 256 - (1 << i), x.ofOwner(5, 2));
+            due("left with the first", (1 << i) - 1, x.ofOwner(0, 2));
+        }
+        x.steal(7);
+        due("what is kept is with none", 127, x.ofOwner(5, 2));
+        due("nor with any other", 0, x.ofOwner(4, 2));
+        for (int owner : new int[] {-1, 6}) due("no such owner", -2000000, x.ofOwner(owner, 2));
+        for (int what : new int[] {-1, 3}) due("no such what", -2000000, x.ofOwner(5, what));
+    }
+
+    private static void ofThing() {
+        Checks.at("Of a THING: 3 with whom (NONE: KEPT), 4 since when it is KEPT (NONE), 5 FROM whom (NONE). -2 for others");
+        ThanksByPost x = city(6, 8, 10, 9);
+        x.give(7, 5);
+        int[] free = {10, 9, 0, 5, -1, -1};
+        for (int what = 0; what < 6; what++) due("not kept, " + what, free[what], x.of(7, what));
+        x.steal(7);
+        int[] kept = {10, 9, 0, -1, 0, 5};
+        for (int what = 0; what < 6; what++) due("kept, " + what, kept[what], x.of(7, what));
+        x.day(9);
+        int[] back = {19, 9, 0, 5, -1, -1};
+        for (int what = 0; what < 6; what++) due("back, " + what, back[what], x.of(7, what));
+        for (int thing : new int[] {-1, 8}) due("no such thing", -2, x.of(thing, 0));
+        for (int what : new int[] {-1, 6}) due("no such what", -2, x.of(7, what));
+    }
+
+    private static void lawOf() {
+        Checks.at("Of a KEPT THING as now. -100000 for others, and if it isn't KEPT");
+        ThanksByPost x = city(2, 2, 10, 1);
+        for (int what = -1; what <= 4; what++) due("not kept", -100000, x.law(0, what));
+        x.steal(0);
+        int[] laws = {1, 9, 0, 10};
+        for (int what = 0; what < 4; what++) due("kept", laws[what], x.law(0, what));
+        for (int what : new int[] {-1, 4}) due("no such what", -100000, x.law(0, what));
+        for (int thing : new int[] {-1, 1, 2}) due("not kept, or none such", -100000, x.law(thing, 0));
+        Checks.rule(x, "dears day+kept;after dear;to kept;brings pence+kept*100;");
+        x.day(3);
+        int[] now = {6, x.of(0, 0), 1, 300};
+        for (int what = 0; what < 4; what++) due("as now", now[what], x.law(0, what));
+        x.send(0);
+        for (int what = 0; what < 4; what++) due("back", -100000, x.law(0, what));
     }
 }

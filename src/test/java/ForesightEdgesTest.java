@@ -625,6 +625,11 @@ public final class ForesightEdgesTest {
         Checks.put(x, "");
         x.back();
         due("no tape is gone back to", 0, x.about(11));
+        x = Cities.late(9999);
+        due("on the last day", 9999, x.image());
+        x.steal(0);
+        due("on the last day", 9999, x.back());
+        due("as it was", 0, x.of(0, 3));
     }
 
     private static void imageTexts() {

@@ -22,6 +22,7 @@ public final class ModelTest {
     }
 
     public static void main(String[] args) throws Exception {
+        if (args.length == 0) Checks.at("drawn calls");
         Method[] face = face();
         int runs = args.length > 0 ? Integer.parseInt(args[0]) : RUNS;
         for (int run = 0; run < runs && wrong < 10; run++) {

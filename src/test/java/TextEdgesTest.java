@@ -25,6 +25,7 @@ public final class TextEdgesTest {
         eachLawOnce();
         cutShort();
         spoilt();
+        joining();
         theLeastFault();
         theFirstFault();
         namesOfTheClause();
@@ -128,6 +129,15 @@ public final class TextEdgesTest {
         good(" ".repeat(292) + "dears 1;");
         fault(" ".repeat(293) + "dears 1", 1, 300);
         fault("a".repeat(300), 1, 0);
+        fault(" ".repeat(299) + "@", 1, 299);
+        fault("\n".repeat(299) + "5", 1, 299);
+        fault(";".repeat(300), 1, 0);
+        fault(";1".repeat(150), 1, 0);
+        fault("1;".repeat(150), 1, 0);
+        fault("dears " + "(".repeat(294), 3, 14);
+        fault("dears " + "-".repeat(294), 3, 14);
+        fault("dears" + "(1)+".repeat(73) + "(1)", 1, 300);
+        good("to" + "(1)*".repeat(73) + "(10);");
         fault("dears " + "9".repeat(294), 2, 6);
         good("dears " + "0".repeat(292) + "1;");
         fault("dears" + " ".repeat(295), 1, 300);
@@ -409,6 +419,35 @@ public final class TextEdgesTest {
                     fault(ahead + none + " 1 ;", 1, ahead.length());
                 }
             }
+        }
+    }
+
+    private static final String[] WORDS = {"then", "else", "end", "of", "or", "and", "not", "left", "if", "to", "bulk", "dears",
+        "after", "brings", "owner", "thing", "room", "steal", "send", "give", "day", "kept", "dear", "from", "pence"};
+
+    /** The words that join are each its own: no other stands in its place. */
+    private static void joining() {
+        Checks.at("1 it can't stand there");
+        for (String[] tokens : new String[][] {LONG_LAW, DEEDS}) {
+            for (int at = 1; at < tokens.length; at++) {
+                boolean joins = List.of("then", "else", "end", "of", "to").contains(tokens[at])
+                    || tokens == DEEDS && tokens[at].equals("bulk");
+                for (String word : WORDS) {
+                    boolean asks = tokens[at].equals("then") && (word.equals("or") || word.equals("and"));
+                    if (!joins || asks || word.equals(tokens[at])) continue;
+                    String ahead = joined(tokens, at) + " ";
+                    fault(ahead + word + " 1 ;", 1, ahead.length());
+                    fault(ahead + word, 1, ahead.length());
+                }
+            }
+        }
+        for (String word : WORDS) {
+            boolean begins = List.of("dears", "after", "to", "brings", "owner", "thing", "room", "steal", "send", "give", "day")
+                .contains(word);
+            fault("room 5;" + word, 1, begins ? 7 + word.length() : 7);
+            fault("room " + word + ";", 1, 5);
+            fault("room 5 " + word + ";", 1, 7);
+            fault("dears 5 " + word + ";", 1, 8);
         }
     }
 
