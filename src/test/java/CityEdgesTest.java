@@ -61,6 +61,31 @@ public final class CityEdgesTest {
         due("a seventh", -1, x.owner(10));
         due("no owner 6", -2000000, x.ofOwner(6, 0));
         for (int i = 0; i < 6; i++) due("lives " + i, lives[i], x.ofOwner(i, 0));
+        others();
+    }
+
+    /** What is told is told of itself alone. */
+    private static void others() {
+        Checks.at("PENCE (any; at first 0); LIVES; of the one that is told");
+        ThanksByPost x = city(3, 1, 10, 1);
+        x.give(0, 1);
+        x.steal(0);
+        x.send(0);
+        due("told", 3, x.owner(2));
+        due("pence of the second", 10, x.ofOwner(1, 1));
+        x.give(0, 0);
+        x.steal(0);
+        x.send(0);
+        due("told", 4, x.owner(3));
+        int[] pence = {10, 10, 0, 0, 0};
+        int[] owns = {5, 5, 5, 2, 3};
+        for (int i = 0; i < 5; i++) {
+            due("pence of " + i, pence[i], x.ofOwner(i, 1));
+            due("lives of " + i, owns[i], x.ofOwner(i, 0));
+        }
+        x.thing(33, 4, 3);
+        due("the first thing is as dear as ever", 10, x.of(0, 0));
+        due("and with whom it was", 0, x.of(0, 3));
     }
 
     private static void things() {
@@ -645,6 +670,18 @@ public final class CityEdgesTest {
         due("lives as told", 7, x.ofOwner(1, 0));
         due("pence", 0, x.ofOwner(1, 1));
         due("the first thing as ahead of the theft", 0, x.of(0, 3));
+        x = city(1, 1, 10, 1);
+        x.steal(0);
+        for (int i = 0; i < 3; i++) {
+            x.owner(i);
+            x.thing(50 + i, i + 1, 2 + i);
+        }
+        due("undo", 0, x.undo());
+        for (int i = 0; i < 3; i++) {
+            due("each as told", 50 + i, x.of(i + 1, 0));
+            due("each as told", i + 1, x.of(i + 1, 3));
+            due("each as told", i, x.ofOwner(i + 1, 0));
+        }
         // Told behind the step that is taken back, with no step of its own in between.
         x = city(1, 1, 10, 1);
         x.day(1);
@@ -817,5 +854,16 @@ public final class CityEdgesTest {
         for (int what = 0; what < 4; what++) due("as now", now[what], x.law(0, what));
         x.send(0);
         for (int what = 0; what < 4; what++) due("back", -100000, x.law(0, what));
+        Checks.at("brings: pence of the one to whom it comes; as now");
+        x = city(3, 1, 10, 1);
+        Checks.rule(x, "to bulk+kept;brings pence+100;");
+        x.steal(0);
+        x.send(0);
+        x.steal(0);
+        due("to", 1, x.law(0, 2));
+        due("of that one", 200, x.law(0, 3));
+        x.day(1);
+        due("to another one now", 2, x.law(0, 2));
+        due("of that one", 100, x.law(0, 3));
     }
 }

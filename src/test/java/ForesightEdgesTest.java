@@ -261,6 +261,12 @@ public final class ForesightEdgesTest {
         due("the last thing stolen", 8, x.fewest(7, 1, 2, 0));
         due("the last thing sent", 17, x.fewest(7, 1, 2, 1));
         due("nothing on the first of three", 0, x.fewest(7, 1, 3, 0));
+        ThanksByPost y = city(6, 1, 10, 1);
+        Checks.rule(y, "to 5;");
+        due("to the last owner, though there is one thing alone", 2, y.fewest(0, 5, 2, -1));
+        due("stolen", 1, y.fewest(0, 5, 2, 0));
+        due("sent", 10, y.fewest(0, 5, 2, 1));
+        due("no owner 6", -1, y.fewest(0, 6, 2, -1));
         due("the first thing stolen", 1, x.fewest(0, 1, 3, 1));
         due("the first thing sent", 10, x.fewest(0, 1, 3, 2));
     }
@@ -324,6 +330,16 @@ public final class ForesightEdgesTest {
         due("sent", 10, x.fewest(0, 1, 3, 2));
         due("not in two days", -1, x.fewest(0, 1, 2, -1));
         due("to where it never comes", -1, x.fewest(1, 0, 3, -1));
+        // However little room there is, all that is kept can be sent, whatever its number.
+        x = city(2, 8, 10, 1);
+        x.steal(7);
+        x.room(0);
+        due("the last thing sent", 1, x.fewest(7, 0, 1, -1));
+        due("the last thing sent", 17, x.fewest(7, 0, 1, 0));
+        x.room(1);
+        x.send(7);
+        Checks.rule(x, "after 1;to 1;");
+        due("the last thing stolen", 8, x.fewest(7, 1, 1, 0));
     }
 
     private static void fewestOnTheLastDay() {
@@ -353,6 +369,10 @@ public final class ForesightEdgesTest {
                 due("d0 " + d, -1, x.since(0, d, 50, most));
                 due("d1 " + d, -1, x.since(0, 50, d, most));
             }
+            // Just beyond, it would be within a day later.
+            due("d0 100 to 99", -1, x.since(0, 100, 99, most));
+            due("d0 -1 to 0", -1, x.since(0, -1, 0, most));
+            due("d0 -1 to 5", -1, x.since(0, -1, 5, most));
             for (int thing : new int[] {-1, 2}) due("thing " + thing, -1, x.since(thing, 5, 5, most));
             due("no day", 0, x.since(0, 0, 0, most));
             due("sixty days", 60, x.since(0, 0, 60, most));
@@ -448,6 +468,10 @@ public final class ForesightEdgesTest {
         x.thing(0, 0, 1);
         x.steal(0);
         due("of no weight, and yet the one", 0, x.early());
+        x = city(1, 8, 50, 1);
+        x.steal(7);
+        x.room(0);
+        due("the last one, whatever ROOM was told since", 7, x.early());
     }
 
     /** Two things of owners who live 9 and 5 of 10, so dear that just so many years make the one the weightier. */
@@ -625,11 +649,40 @@ public final class ForesightEdgesTest {
         Checks.put(x, "");
         x.back();
         due("no tape is gone back to", 0, x.about(11));
+        imageOfLists();
         x = Cities.late(9999);
         due("on the last day", 9999, x.image());
         x.steal(0);
         due("on the last day", 9999, x.back());
         due("as it was", 0, x.of(0, 3));
+    }
+
+    private static void imageOfLists() {
+        ThanksByPost x = city(1, 8, 10, 5);
+        x.plan(7, 0);
+        x.plan(7, 9);
+        for (int vote : new int[] {3, 50, 99}) x.vote(vote);
+        x.seen(50, 5, true);
+        x.seen(20, 5, false);
+        x.image();
+        for (int i = 0; i < 3; i++) {
+            due("planned as then", -1, x.first());
+            due("votes as then", 50, x.voted(false));
+            due("seen as then", 2101, x.rule());
+            for (int what = 8; what <= 10; what++) due("how many", what == 9 ? 3 : 2, x.about(what));
+            x.plan(7, 8);
+            due("it can't be on the eighth day", 2, x.first());
+            x.vote(-1);
+            x.vote(9);
+            x.seen(60, 1, false);
+            due("seen more", 2102, x.rule());
+            x.back();
+        }
+        x.steal(7);
+        due("what is planned for today can't be", 0, x.first());
+        x.back();
+        x.plan(6, 9);
+        due("no room for both on the ninth day", 2, x.first());
     }
 
     private static void imageTexts() {

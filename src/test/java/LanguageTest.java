@@ -40,10 +40,17 @@ public final class LanguageTest {
         }
         Checks.due("rule 1, the face's methods and the constructor", 40, faceNames.size());
         face(outer);
+        signs();
         new Scan().scan(unit, null);
         Checks.yes("rule 11, some twelve classes: " + classes, classes <= 12);
         depths();
         Checks.end();
+    }
+
+    private static void signs() throws java.io.IOException {
+        for (byte sign : java.nio.file.Files.readAllBytes(SOURCE)) {
+            if (sign != 10 && (sign < 32 || sign > 126)) Checks.no("rule 4, a sign " + sign, true);
+        }
     }
 
     private static void face(ClassTree outer) {
@@ -103,10 +110,32 @@ public final class LanguageTest {
         @Override
         public Void visitVariable(VariableTree f, Void v) {
             Set<Modifier> flags = f.getModifiers().getFlags();
-            if (flags.contains(Modifier.STATIC)) Checks.yes("rule 5, " + f.getName(), flags.contains(Modifier.FINAL));
+            if (flags.contains(Modifier.STATIC)) {
+                VariableElement field = (VariableElement) trees.getElement(getCurrentPath());
+                Checks.yes("rule 5, " + f.getName(), flags.contains(Modifier.FINAL) && field.getConstantValue() != null);
+            }
             String type = f.getType() == null ? "" : f.getType().toString();
             Checks.yes("rule 3, " + f, type.matches("(int|long|boolean)(\\[\\])?|int\\[\\]\\[\\]|String|[A-Z][a-z]+(\\[\\])?"));
             return super.visitVariable(f, v);
+        }
+
+        @Override
+        public Void visitBlock(BlockTree b, Void v) {
+            Checks.no("rule 5, a block of a class, line " + line(b), getCurrentPath().getParentPath().getLeaf() instanceof ClassTree);
+            return super.visitBlock(b, v);
+        }
+
+        @Override
+        public Void visitForLoop(ForLoopTree f, Void v) {
+            Checks.yes("rule 9, line " + line(f), f.getCondition() instanceof BinaryTree && f.getUpdate().size() == 1);
+            return super.visitForLoop(f, v);
+        }
+
+        @Override
+        public Void visitWhileLoop(WhileLoopTree w, Void v) {
+            Tree asked = ((ParenthesizedTree) w.getCondition()).getExpression();
+            Checks.yes("rule 9, line " + line(w), asked instanceof BinaryTree);
+            return super.visitWhileLoop(w, v);
         }
 
         @Override

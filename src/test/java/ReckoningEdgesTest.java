@@ -105,6 +105,8 @@ public final class ReckoningEdgesTest {
         x.undo();
         due("as it was", 2, x.worth(5));
         due("the room that is there doesn't matter", 3, x.worth(10));
+        x.room(0);
+        due("not even if there is none", 3, x.worth(10));
     }
 
     // ---- the book
@@ -138,6 +140,32 @@ public final class ReckoningEdgesTest {
         due("the eldest has gone from the book", 31, x.whose(7));
         x.undo();
         due("and is there again", 63, x.whose(7));
+        asDearAsCanBe();
+    }
+
+    /** How dear it came back is nothing to who had it. */
+    private static void asDearAsCanBe() {
+        Checks.at("WHOSE and TWICE: returns of 0 and of 99 DEAR");
+        for (int dear : new int[] {0, 99}) {
+            ThanksByPost x = owners(1, 1, 1, 1, 1, 1);
+            x.room(99);
+            for (int i = 0; i < 8; i++) x.thing(dear, 5 - i % 6, 1);
+            for (int i = 0; i < 8; i++) {
+                x.steal(i);
+                x.send(i);
+                due("dear as it was", dear, x.book(i, 3));
+            }
+            for (int i = 0; i < 8; i++) due("whose " + i, 1 << 5 - i % 6, x.whose(i));
+            due("none twice", 0, x.twice());
+            x.steal(6);
+            x.send(6);
+            due("the one", 64, x.twice());
+            x.give(5, 1);
+            x.steal(5);
+            x.send(5);
+            due("to another", 3, x.whose(5));
+            due("the one yet", 64, x.twice());
+        }
     }
 
     private static void twiceByTheBook() {

@@ -37,6 +37,7 @@ public final class TextEdgesTest {
         cutTowardsZero();
         left();
         asks();
+        sumsAndOnes();
         names();
         played();
         playedDays();
@@ -745,6 +746,33 @@ public final class TextEdgesTest {
         brings("if 1000*1000<1000*1000+1 then 1 else 0 end", 0);
     }
 
+    private static void sumsAndOnes() {
+        Checks.at("SUM: PRODUCT {+ or - PRODUCT}; PRODUCT: ONE {* or / ONE}; left ONE of ONE; if .. SUM .. then SUM else SUM end");
+        brings("if 1+2*3-4=9/3 then 1 else 0 end", 1);
+        brings("if 9/3=1+2*3-4 then 1 else 0 end", 1);
+        brings("if not 9/3#1+2*3-4 or 1=2 then 1 else 0 end", 1);
+        brings("if 1=2 or 9/3=1+2*3-4 and 5-1*2=3 then 1 else 0 end", 1);
+        brings("if 1=1 then 1+2*3-4 else 0 end", 3);
+        brings("if 1=2 then 0 else 1+2*3-4 end", 3);
+        brings("(1+2*3-4)*5", 15);
+        brings("-(1+2*3-4)", -3);
+        brings("left (1+2*3) of (1+2)", 1);
+        brings("left 7 of 4+2", 5);
+        brings("left 7 of 4*2", 6);
+        brings("left 7 of 4/3", 1);
+        brings("9-left 7 of 4-2", 4);
+        brings("-7+2", -5);
+        brings("left -7 of 4", 1);
+        for (String more : new String[] {"+", "-", "*", "/"}) {
+            fault("dears left 1" + more + "2 of 3;", 1, 12);
+            good("dears left (1" + more + "2) of 3;");
+            good("dears left 1 of 2" + more + "3;");
+            good("dears if 1" + more + "2<3" + more + "4 then 5" + more + "6 else 7" + more + "8 end;");
+            good("dears -1" + more + "2;");
+            good("dears (1" + more + "2);");
+        }
+    }
+
     private static void names() {
         Checks.at("NAMES: day, kept, dear, bulk, owner, from in all; thing in to, brings; pence in brings");
         ThanksByPost x = new ThanksByPost();
@@ -797,6 +825,7 @@ public final class TextEdgesTest {
         due("the first can't be: it is kept", 22, x.played(3));
         due("one step", 1, x.about(7));
         due("text 4 isn't there", -2, x.played(4));
+        playedAsByHand();
         cannot("steal 0;", 0);
         cannot("dears 1;send 0;", 1);
         cannot("owner 1;".repeat(6) + "after 2;owner 1;", 7);
@@ -806,6 +835,28 @@ public final class TextEdgesTest {
         cannot("owner 1;thing 1 of 0 bulk 9;room 8;steal 0;", 3);
         cannot("owner 1;thing 1 of 0 bulk 9;room 9;steal 0;send 0;send 0;", 5);
         cannot("room 0;room 99;", -1);
+    }
+
+    private static void playedAsByHand() {
+        ThanksByPost x = new ThanksByPost();
+        Checks.text(x, "owner 0;owner 10;owner 7;thing 99 of 1 bulk 9;thing 0 of 0 bulk 1;thing 42 of 2 bulk 3;room 98;"
+            + "give 2 to 1;steal 2;steal 0;day 2;send 2;");
+        due("all is done", -1, x.played(0));
+        int[] lives = {0, 10, 7};
+        int[] pence = {0, 44, 0};
+        int[] with = {2, 4, 0};
+        for (int i = 0; i < 3; i++) {
+            due("lives of " + i, lives[i], x.ofOwner(i, 0));
+            due("pence of " + i, pence[i], x.ofOwner(i, 1));
+            due("things with " + i, with[i], x.ofOwner(i, 2));
+        }
+        int[][] things = {{99, 9, 1, -1, 0, 1}, {0, 1, 0, 0, -1, -1}, {44, 3, 2, 1, -1, -1}};
+        for (int i = 0; i < 3; i++) {
+            for (int what = 0; what < 6; what++) due("of(" + i + ", " + what + ")", things[i][what], x.of(i, what));
+        }
+        due("room", 98, x.about(2));
+        due("day", 2, x.about(3));
+        due("steps", 6, x.about(7));
     }
 
     private static void cannot(String text, int clause) {
