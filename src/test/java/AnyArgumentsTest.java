@@ -11,6 +11,7 @@ import java.util.function.Supplier;
 public final class AnyArgumentsTest {
     private static final int MIN = Integer.MIN_VALUE;
     private static final int MAX = Integer.MAX_VALUE;
+    private static final int CALLS = 100;
     private static final int[] MANY = {MIN, MIN + 1, -10000, -2, -1, 0, 1, 2, 5, 6, 7, 8, 9, 10, 20, 30, 31, 60, 61, 63, 64, 99, 100,
         300, 301, 9999, 10000, 30319, 1 << 30, MAX - 1, MAX};
     private static final int[] SOME = {MIN, -2, -1, 0, 1, 3, 7, 99, MAX};
@@ -37,13 +38,26 @@ public final class AnyArgumentsTest {
             for (Method m : ThanksByPost.class.getDeclaredMethods()) {
                 if (!Modifier.isPublic(m.getModifiers())) continue;
                 Checks.at(state.getKey() + ", " + m.getName());
-                // One object takes them all, one behind the other; another is made for each method.
-                ThanksByPost x = state.getValue().get();
-                for (Object[] arguments : arguments(m)) call(x, m, arguments);
-                stands(x);
+                // One object takes many, one behind the other, but no more calls than there are promises for.
+                List<Object[]> all = arguments(m);
+                for (int from = 0; from < all.size(); from += CALLS) {
+                    ThanksByPost x = state.getValue().get();
+                    for (Object[] arguments : all.subList(from, Math.min(from + CALLS, all.size()))) call(x, m, arguments);
+                    stands(x);
+                }
             }
+            forLong(state.getKey(), state.getValue().get());
         }
         Checks.end();
+    }
+
+    /** Behind its 512 calls an object's answers are free, but it throws none the less. */
+    private static void forLong(String state, ThanksByPost x) throws Exception {
+        for (Method m : ThanksByPost.class.getDeclaredMethods()) {
+            if (!Modifier.isPublic(m.getModifiers())) continue;
+            Checks.at(state + ", for long, " + m.getName());
+            for (Object[] arguments : arguments(m)) answer(x, m, arguments);
+        }
     }
 
     private static List<Object[]> arguments(Method m) {
@@ -72,15 +86,20 @@ public final class AnyArgumentsTest {
     }
 
     private static void call(ThanksByPost x, Method m, Object[] arguments) throws Exception {
-        String call = m.getName() + java.util.Arrays.toString(arguments);
+        if (answer(x, m, arguments) instanceof Number n) {
+            long most = m.getName().equals("odds") ? 1000000000000000000L : 1000000;
+            String call = m.getName() + java.util.Arrays.toString(arguments);
+            Checks.yes(call + " = " + n, n.longValue() >= -2000000 && n.longValue() <= most);
+        }
+    }
+
+    /** Null where it throws. */
+    private static Object answer(ThanksByPost x, Method m, Object[] arguments) throws Exception {
         try {
-            Object answer = m.invoke(x, arguments);
-            if (answer instanceof Number n) {
-                long most = m.getName().equals("odds") ? 1000000000000000000L : 1000000;
-                Checks.yes(call + " = " + n, n.longValue() >= -2000000 && n.longValue() <= most);
-            }
+            return m.invoke(x, arguments);
         } catch (InvocationTargetException e) {
-            Checks.due(call + " throws " + e.getCause(), 0, 1);
+            Checks.due(m.getName() + java.util.Arrays.toString(arguments) + " throws " + e.getCause(), 0, 1);
+            return null;
         }
     }
 

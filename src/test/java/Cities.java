@@ -21,8 +21,9 @@ final class Cities {
         return x;
     }
 
+    /** In as few calls as can be: behind 512 of them an object's answers are free. */
     static void passTo(ThanksByPost x, int day) {
-        for (int i = 0; i < 170 && x.about(3) < day; i++) x.day(Math.min(60, day - x.about(3)));
+        for (int left = day - x.about(3); left > 0; left -= 60) x.day(Math.min(60, left));
         Checks.due("the day that is passed to", day, x.about(3));
     }
 

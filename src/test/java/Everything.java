@@ -74,19 +74,20 @@ final class Everything {
     }
 
     private void takeBack() {
+        int owners = x.about(0);
+        int things = x.about(1);
         for (int i = 0; i <= 30; i++) {
             int left = x.undo();
             tell(left);
             if (left < 0) break;
             tell(x.about(3));
             tell(x.about(4));
-            tell(x.about(2));
-            int cards = x.book(-1, 0);
-            tell(cards);
+            tell(x.book(-1, 0));
             tell(x.book(0, 1));
-            int thing = i % Math.max(1, x.about(1));
-            for (int what = 0; what <= 5; what++) tell(x.of(thing, what));
-            tell(x.ofOwner(i % Math.max(1, x.about(0)), 1));
+            // Each behind its own steps: all of them behind each would be too many calls for one object.
+            int thing = i % Math.max(1, things);
+            for (int what : new int[] {0, 3, 4, 5}) tell(x.of(thing, what));
+            tell(x.ofOwner(i % Math.max(1, owners), 1));
         }
     }
 

@@ -118,6 +118,26 @@ public final class ForesightEdgesTest {
         due("the first again", 1, x.plan(7, 60));
         due("all that is planned is only planned", 0, x.of(7, 3));
         due("nothing is a step", 0, x.about(7));
+        onlyPlanned();
+    }
+
+    /** What is planned is done by FIRST alone, not by what is foretold, searched or passed. */
+    private static void onlyPlanned() {
+        Checks.at("FORETOLD: nothing being done; PLANNED is told alone");
+        ThanksByPost x = city(2, 2, 10, 9);
+        x.plan(0, 0);
+        x.plan(1, 0);
+        x.plan(0, 1);
+        due("the second has no room", 1, x.first());
+        due("with whom, behind a day", 0, x.foretold(1, 0, 1));
+        due("no dearer", 10, x.foretold(60, 0, 0));
+        due("no pence", 0, x.pence(60, 0));
+        due("it needn't be fetched", 0, x.fewest(0, 0, 2, -1));
+        due("days pass", 0, x.day(20));
+        due("with whom it was", 0, x.of(0, 3));
+        due("stolen by hand", 9, x.steal(0));
+        due("planned as it was, on the days from now", 0, x.first());
+        due("foretold without it", 11, x.foretold(1, 0, 0));
     }
 
     private static void firstOfNone() {
