@@ -17,6 +17,7 @@ import javax.tools.ToolProvider;
 /** What README.md says is tried: the answers it tells, its table of what is refused, and its commands. */
 public final class ReadmeTest {
     private static final Path README = Path.of("README.md");
+    private static final String CLASSES = "/tmp/thanks-by-post";
     private static final Pattern ANSWER = Pattern.compile("((?:int|long|boolean) (\\w+) = )?(.+?);\\s+// (-?\\d+|true|false)\\b.*");
     private static final Pattern CALL = Pattern.compile("\\bcity\\.(\\w+)\\(");
     private static final Pattern ROW = Pattern.compile("\\| (-?\\d+|false)\\b[^|]*\\|([^|]+)\\|");
@@ -105,9 +106,13 @@ public final class ReadmeTest {
         if (code != 0) Checks.end();
         Class<?> made = new URLClassLoader(new URL[] {dir.toUri().toURL()}).loadClass("Tried");
         made.getMethods();
+        empty(dir);
+        return made;
+    }
+
+    private static void empty(Path dir) throws IOException {
         for (File f : dir.toFile().listFiles()) Files.delete(f.toPath());
         Files.delete(dir);
-        return made;
     }
 
     // ---- what is refused
@@ -152,7 +157,12 @@ public final class ReadmeTest {
         // This test is one of those that .ci/run runs, so it can't run it in turn.
         Checks.yes("all of them", blocks.get(0).equals(List.of("bash .ci/run")));
         Checks.yes(".ci/run can be run", Files.isExecutable(Path.of(".ci/run")));
-        Checks.due("one alone", 0, exitCode(String.join("\n", blocks.get(1))));
+        String one = String.join("\n", blocks.get(1));
+        Checks.yes("they say where the classes are put", one.contains(CLASSES));
+        // A place of its own, so that what is there of another run is neither used nor in the way.
+        Path dir = Files.createTempDirectory("readme");
+        Checks.due("one alone", 0, exitCode(one.replace(CLASSES, dir.toString())));
+        empty(dir);
     }
 
     private static int exitCode(String commands) throws IOException, InterruptedException {
